@@ -671,6 +671,10 @@ public final class HermitsSpoon {
             return NONE;
         }
 
+        Hermit hermitIn(int seat) {
+            return hermits.get(sitters[seat]);
+        }
+
         int seatNext(int seat) {
             return seat + 1 < hermits.size() ? seat + 1 : 0;
         }
@@ -784,11 +788,12 @@ public final class HermitsSpoon {
                 } else {
                     eat(at);
                 }
-                passTime(table.hermits.get(table.sitters[at]).beatsOfTurn());
+                passTime(table.hermitIn(at).beatsOfTurn());
                 at = table.seatBeside(at, vow.goesToNext);
             }
         }
 
+        // A spoon stays where it has come to until its turn: in the seat of one who starved it is in nobody's way.
         void goBothWays(int seat) {
             int size = table.hermits.size();
             if (size == 0 || table.starvedInAll() == size) {
@@ -804,7 +809,7 @@ public final class HermitsSpoon {
                     passTime(1);
                 } else {
                     eat(mine);
-                    passTime(table.hermits.get(table.sitters[mine]).beatsOfTurn());
+                    passTime(table.hermitIn(mine).beatsOfTurn());
                 }
                 int gone = table.seatBeside(mine, next);
                 mine = other;
@@ -870,6 +875,7 @@ public final class HermitsSpoon {
         private void stir() {
             int each = left / LAYERS;
             int rest = left % LAYERS;
+            // The rest sinks: layer 4 is the lowest.
             for (int layer = 0; layer < LAYERS; layer++) {
                 layers[layer] = each + asNumber(layer >= LAYERS - rest);
             }
@@ -883,14 +889,14 @@ public final class HermitsSpoon {
         private void eat(int seat) {
             int eater = table.sitters[seat];
             bitingTurns[eater]++;
-            int many = table.hermits.get(eater).bitesInTurn(bitingTurns[eater]) + asNumber(eater == twiceTaker);
+            int many = table.hermitIn(seat).bitesInTurn(bitingTurns[eater]) + asNumber(eater == twiceTaker);
             for (int i = 0; i < many && left > 0; i++) {
                 takeBite(eater, seat);
             }
         }
 
         private void takeBite(int eater, int seat) {
-            Hermit biting = table.hermits.get(eater);
+            Hermit biting = table.hermitIn(seat);
             bitesBy[eater]++;
             int fed = biting.givesAway(bitesBy[eater]) ? table.sitters[table.seatNext(seat)] : eater;
             int layer = firstLayer();
@@ -936,6 +942,7 @@ public final class HermitsSpoon {
     private static final class Council {
         private final Sitting sitting;
         private final Table trial;
+        private final int[][] mealsOfRound = new int[MOST_HERMITS][MOST_HERMITS];
 
         Council(Sitting sitting, Table trial) {
             this.sitting = sitting;
@@ -989,13 +996,22 @@ public final class HermitsSpoon {
 
         // The first day (from 1) on which one of those looked at starves, k fasting by turns; NONE, if no day is.
         int dayOfLoss(Table table, Vow vow, int seat, int k, int days, int lookedAt) {
-            trial.becomeLike(table, table.hermits.size());
+            int size = table.hermits.size();
+            trial.becomeLike(table, size);
             int start = seat;
-            for (int day = 0; day < days; day++) {
-                sitting.wholeDay(trial, vow, start, fastersOf(day, k));
-                if ((trial.endDay(sitting.meals) & lookedAt) != 0) {
+            int sameSince = 0;
+            for (int day = 0; day < days && size > 0; day++) {
+                int[] meals = mealsOfRound[day % size];
+                // As long as the same ones live, spoon and fasts are as they were a whole round of days ago.
+                if (day - sameSince < size) {
+                    sitting.wholeDay(trial, vow, start, fastersOf(day, k));
+                    System.arraycopy(sitting.meals, 0, meals, 0, MOST_HERMITS);
+                }
+                int starving = trial.endDay(meals);
+                if ((starving & lookedAt) != 0) {
                     return day + 1;
                 }
+                sameSince = starving != 0 ? day + 1 : sameSince;
                 start = trial.seatBeside(start, vow.goesToNext);
             }
             return NONE;
