@@ -1,7 +1,10 @@
+import java.util.function.LongSupplier;
+
 /** Counts the answers that are not the ones that are due, and ends a test with code 1 if there was one. */
 final class Due {
     private static int wrong = 0;
     private static int asked = 0;
+    private static String heading = "";
 
     private Due() {
     }
@@ -10,8 +13,20 @@ final class Due {
         asked++;
         if (got != want) {
             wrong++;
-            System.out.println(call + " answered " + got + ", due is " + want);
+            System.out.println(heading + call + " answered " + got + ", due is " + want);
         }
+    }
+
+    /** What stands ahead of each wrong answer from now on. */
+    static void under(String name) {
+        heading = name + ": ";
+    }
+
+    /** A refused call answers so, and all that digest() tells is as it was. */
+    static void refused(HermitsSpoon x, String call, LongSupplier refused, long want) {
+        long before = x.digest();
+        is(call, refused.getAsLong(), want);
+        is(call + " changes nothing: digest()", x.digest(), before);
     }
 
     static void that(String what, boolean holds) {
