@@ -253,6 +253,14 @@ public final class BestEdgesTest {
         Due.is("bestStir of l", x.bestStir(0, 0), 9);
     }
 
+    static void promise21_tenIsNoneOfThem() {
+        // By ten: 9; 19 are 3, 4, 4, 4, 4: 3, 8, 6; 10 are 2 each: 2, 4, 6, 8, 5; 5: 56. By 8: 7, 10, 14, 24: 55.
+        HermitsSpoon x = needing("lt8", 1);
+        Due.soup(x, 28);
+        Due.is("least of t8", x.least(0, 0), 54);
+        Due.is("bestStir", x.bestStir(0, 0), 8);
+    }
+
     static void promise21_noneMayBeItThoughTheVowStirs() {
         // Soup in layer 4 is worth most: each stir lifts it.
         HermitsSpoon x = needing("lt3", 1);

@@ -219,6 +219,26 @@ public final class DaysEdgesTest {
         Due.is("starves(0, 1, 1)", x.starves(0, 1, 1), NONE);
     }
 
+    // One needs 9 and starves on day 3, behind a whole round of two days; the other needs 2 and has 3 each day then.
+    private static void oneStarvesBehindARound(int hungry, int seat, int store) {
+        HermitsSpoon x = new HermitsSpoon();
+        for (int h = 0; h < 2; h++) {
+            x.hermit(0, 0, h == hungry ? 9 : 2, 0, 3, h == hungry ? store : 5);
+        }
+        Due.vow(x, "l");
+        Due.soup(x, 3);
+        Due.is("starves(0, " + seat + ", " + hungry + ")", x.starves(0, seat, hungry), 3);
+        Due.is("starves(0, " + seat + ", " + (1 - hungry) + ")", x.starves(0, seat, 1 - hungry), NONE);
+    }
+
+    static void promise23_whoStarvesBehindAWholeRoundIsSkippedThen() {
+        // From the other's SEAT: 11, 5, -4; from its own: 14, 5, -1.
+        oneStarvesBehindARound(1, 0, 20);
+        oneStarvesBehindARound(1, 1, 20);
+        oneStarvesBehindARound(0, 1, 20);
+        oneStarvesBehindARound(0, 0, 20);
+    }
+
     static void promise23_itLeavesAll() {
         HermitsSpoon x = oneBiteADay("l", 1, 0, 0);
         long before = x.digest();
@@ -265,6 +285,13 @@ public final class DaysEdgesTest {
         HermitsSpoon x = oneBiteADay("l", 3, 0, 1, 2);
         x.change(0, 2);
         Due.is("fasting(0, 0, 30)", x.fasting(0, 0, 30), 2);
+    }
+
+    static void promise24_theyAreCountedFromSeat0WhereverTheSpoonBegins() {
+        // From 1 on 2 must eat: by k of 1 SEAT 0 fasts, and 1 eats; by k of 2 0 and 1 fast.
+        HermitsSpoon x = oneBiteADay("l", 3, 9, 9, 0);
+        Due.is("fasting(0, 1, 1)", x.fasting(0, 1, 1), 2);
+        Due.is("fasting(0, 2, 1)", x.fasting(0, 2, 1), 0);
     }
 
     // ---- "The least k (0 up to one less than how many HERMITS there are)"

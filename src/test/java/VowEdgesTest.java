@@ -212,6 +212,35 @@ public final class VowEdgesTest {
         Due.is("vow() of d", x.vow(), STATE);
     }
 
+    // What stood further on before does not make a beginning a VOW.
+    private static void beginningBehind(String before, String beginning) {
+        HermitsSpoon x = new HermitsSpoon();
+        Due.write(x, before);
+        x.blank();
+        Due.write(x, beginning);
+        Due.is("fault() of " + beginning + " behind " + before, x.fault(), beginning.length());
+        Due.refused(x, "vow() of " + beginning + " behind " + before, x::vow, STATE);
+        HermitsSpoon y = new HermitsSpoon();
+        Due.vow(y, before);
+        Due.write(y, beginning);
+        Due.is("fault() of " + beginning + " behind the vow " + before, y.fault(), beginning.length());
+        Due.refused(y, "vow() of " + beginning + " behind the vow " + before, y::vow, STATE);
+    }
+
+    static void promise03_lettersFurtherOnAreGoneToo() {
+        beginningBehind("l", "");
+        beginningBehind("lt5", "lt");
+        beginningBehind("lx5", "rx");
+        beginningBehind("rt9dx9", "lt1dx");
+        HermitsSpoon x = new HermitsSpoon();
+        Due.write(x, "lt5dx5");
+        x.blank();
+        Due.is("vow() of r", Due.vow(x, "r"), 0);
+        for (int what = 0; what < 4; what++) {
+            Due.is("vowTold(0, " + what + ") of r", x.vowTold(0, what), 0);
+        }
+    }
+
     // ---- "The place (from 0) of the first letter of THE PAGE that no VOW has there, behind those ahead of it"
 
     // Which of all letters may stand behind a beginning: the others are faults.
